@@ -31,6 +31,7 @@ public final class PromiseTest {
         town();
         away();
         rounds();
+        lastOfFirst();
         home();
         cloth();
         sight();
@@ -149,6 +150,8 @@ public final class PromiseTest {
         faultOf(0, "seam 1 0 100;", 1, 9);
         faultOf(0, "seam 001 0 0;", 1, 5);
         faultOf(0, "seams 1 0 0;", 1, 0);
+        faultOf(0, "seamz 1 0 0;", 1, 0);
+        faultOf(0, "seama 1 0 0;", 1, 0);
         faultOf(0, "sea m 1 0 0;", 1, 0);
         faultOf(0, "Seam 1 0 0;", 1, 0);
         faultOf(0, "seam 1 0 0;sew 1;", 1, 11);
@@ -402,6 +405,7 @@ public final class PromiseTest {
         Due.is("burst fits none", x.state(0, 0, 6, 21), -1000);
         Due.is("stitches", x.state(0, 0, 11, 10), 3);
         Due.is("fits", x.state(0, 0, 11, 20), 4);
+        Due.is("behind what", x.state(0, 0, 11, 30), -1000);
         Due.is("unpicked", x.state(0, 0, 10, 12), 1);
         Due.is("unpicked", x.state(0, 0, 11, 12), 0);
         Due.is("behind stop", x.state(0, 0, 12, 0), -1000);
@@ -705,6 +709,21 @@ public final class PromiseTest {
         Due.is("none in time", x.rounds(1, 0), 0);
         Due.is("none in time", x.rounds(1, 10), NONE);
         Due.is("late", x.rounds(1, 2), 9);
+    }
+
+    /** A ROUND that begins with another WEARER is better than the last one that begins with the first. */
+    private static void lastOfFirst() {
+        SewnYear x = new SewnYear();
+        Tape.tell(x, 2, "speed 1;wearer 0 0 2 7;wearer 0 0 2 1;wearer 0 0 1 5;wearer 0 0 1 4;wearer 0 0 1 3;wearer 0 0 1 2;");
+        int[] most = {1, 5, 4, 3, 2, 0};
+        Due.is("most", x.rounds(0, 0), 6);
+        Due.is("soon", x.rounds(0, 1), 7);
+        Due.is("late", x.rounds(0, 2), 0);
+        Due.is("guild", x.rounds(0, 3), 0);
+        for (int k = 0; k < 6; k++) {
+            Due.is("most " + k, x.rounds(0, 10 + k), most[k]);
+            Due.is("soon " + k, x.rounds(0, 20 + k), k);
+        }
     }
 
     private static void home() {
