@@ -262,7 +262,7 @@ public final class SewnYear {
         if (!areMonths(n, p) || !isCost(c) || !isCost(d) || what < 0 || what > 2) {
             return NONE;
         }
-        long least = Long.MAX_VALUE;
+        long least = FAR * power(10, n);
         int best = 0;
         for (int x = 0; x <= n; x++) {
             long cost = c * x * power(10, n);

@@ -7,11 +7,13 @@ public final class AnyCallsTest {
         "shrink 9;", "day;", "speed 9;", "miles 1;", "tailor 9 9;", "wearer 3 4 30 99;", "wearer 0 0 1 0;",
         "away 0 0 99;", "away 5 1 1;", "before 0 1;", "at 0 0;", "not 8 8;", "seam 10 0 0;", "sew", ";", "q", "123;",
         "\u00ff", " ", "\n"};
+    /** Two end(), up to thirty feed(), text(), two fault(): behind the 512th call nothing is promised. */
+    private static final int TEXT_CALLS = 35;
     private static final int[] FIRST = {0, 9, 16, 23};
     private static final int[] BEHIND = {9, 16, 23, 26};
 
     public static void main(String[] args) {
-        for (int run = 0; run < 400; run++) {
+        for (int run = 0; run < 600; run++) {
             long a = run(run);
             Due.is("run " + run + " again", run(run), a);
         }
@@ -34,11 +36,13 @@ public final class AnyCallsTest {
         Random dice = new Random(seed);
         SewnYear x = new SewnYear();
         long sum = 0;
-        for (int call = 0; call < 512; call++) {
-            if (dice.nextInt(seed % 3 == 0 ? 3 : 25) == 0) {
+        for (int left = 512; left > 0;) {
+            if (left >= TEXT_CALLS && dice.nextInt(seed % 3 == 0 ? 6 : 30) == 0) {
                 sum = sum * 31 + text(x, dice);
+                left -= TEXT_CALLS;
             } else {
                 sum = sum * 31 + ask(x, dice);
+                left--;
             }
         }
         return sum;
