@@ -8,7 +8,7 @@ import java.util.regex.Pattern;
 public final class LanguageTest {
     private static final String[] FORBIDDEN = {"throw", "throws", "try", "catch", "finally", "synchronized", "assert",
         "volatile", "transient", "native", "strictfp", "Thread", "Random", "System\\.(?!arraycopy)\\w+", "Object",
-        "equals", "hashCode", "toString", "\\w+Exact", "getClass", "->", "::", "protected", "var", "Exception"};
+        "equals", "hashCode", "toString", "\\w+Exact", "getClass", "MAX_VALUE", "MIN_VALUE", "->", "::", "protected", "var", "Exception"};
 
     public static void main(String[] args) throws IOException {
         String source = Files.readString(Path.of("src/main/java/SewnYear.java"));
@@ -30,8 +30,23 @@ public final class LanguageTest {
             classes++;
         }
         Due.is("at most twelve classes", classes <= 12, true);
+        shapes(code);
         face(code);
         Due.end();
+    }
+
+    /** Methods of at most sixty lines and seven parameters. */
+    private static void shapes(String code) {
+        Matcher head = Pattern.compile("(?m)^( {4}| {8})[^ }].*\\((.*)\\) \\{$").matcher(code);
+        int methods = 0;
+        while (head.find()) {
+            int end = code.indexOf("\n" + head.group(1) + "}\n", head.end());
+            String body = code.substring(head.end(), end);
+            Due.is("lines of " + head.group().trim(), body.chars().filter(c -> c == '\n').count() <= 60, true);
+            Due.is("parameters of " + head.group().trim(), head.group(2).split(",").length <= 7, true);
+            methods++;
+        }
+        Due.is("many methods", methods > 100, true);
     }
 
     /** The public face: its members, once each, and none that bears a name of it. */

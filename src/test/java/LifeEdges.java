@@ -1,4 +1,7 @@
-/** What can be done to a COAT, and what comes of it: promises 8, 9 and 21. */
+/**
+ * What can be done to a COAT, and what comes of it: promises 8, 9 and 21. That there is no day behind day 99 can't be
+ * seen: a LIFE has 40 DEEDS at most, and 60 are drawn at most.
+ */
 final class LifeEdges {
     private static final int NONE = SewnYear.NONE;
     private static final int NO_STATE = -1000;
@@ -142,6 +145,8 @@ final class LifeEdges {
         stopIs(coat, "sew 0;sew 1;sew 1;sew 1;unpick 1;unpick 0;", 5);
         stopIs(coat, "sew 0;sew 1;tear 1;unpick 0;", 4);
         stopIs("seam 1 0 0;seam 3 0 0;pace 9;", "sew 0;sew 1;unpick 0;", 3);
+        stopIs("seam 3 0 0;seam 1 0 0;after 0 1;pace 9;", "sew 1;sew 0;unpick 1;", 2);
+        stopIs("seam 3 0 0;seam 1 0 0;after 0 1;pace 9;", "sew 1;sew 0;unpick 0;unpick 1;", 4);
     }
 
     static void p8_unpickLooksAtThoseThatComeAfterItAlone() {
@@ -453,10 +458,10 @@ final class LifeEdges {
     }
 
     static void p21_drawingChangesNothing() {
-        SewnYear x = Told.some();
-        String told = Told.of(x);
+        SewnYear x = Retold.some();
+        String told = Retold.of(x);
         x.drawn(0, 99, 60, 0);
-        Due.is("all is as it was", Told.of(x), told);
+        Due.is("all is as it was", Retold.of(x), told);
         Due.is("the LIFE too", x.stop(0, 0), 3);
         Due.is("the same again", x.drawn(0, 99, 60, 1), x.drawn(0, 99, 60, 1));
     }

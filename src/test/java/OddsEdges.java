@@ -313,6 +313,8 @@ final class OddsEdges {
         sureIs(ONE + ONE + ONE + "after 2 1;", "", NONE, 1);
         // 2 0 1 and 0 2 1 fit, 0 is ahead of 1 in both: 0 and 2 are the only ones to ask for.
         sureIs(ONE + ONE + ONE, "at 1 2;", NONE, 2);
+        // Of four, 0 is ahead of 1 in one, ahead of 2 in one; 1 is ahead of 2 in two.
+        sureIs(ONE + ONE + ONE, "not 0 0;", NONE, 11);
     }
 
     static void p20_noneSuchOfEither() {

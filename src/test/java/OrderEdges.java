@@ -133,6 +133,13 @@ final class OrderEdges {
         rowIs(Tape.times(ONE, 4) + "after 1 0;after 2 0;after 3 1;after 3 2;", 2, 0, 2, 2, 3);
     }
 
+    static void p11_earlyAndLateByAllThatIsNeeded() {
+        rowIs(ONE + ONE + ONE + "after 0 1;after 2 0;", 1, 1, 0, 2);
+        rowIs(ONE + ONE + ONE + "after 0 1;after 2 0;", 2, 1, 0, 2);
+        rowIs(ONE + ONE + ONE + ONE + "after 0 1;after 2 0;", 1, 1, 0, 2, 0);
+        rowIs(ONE + ONE + ONE + ONE + "after 0 1;after 2 0;", 2, 2, 1, 3, 3);
+    }
+
     static void p11_theFirstOfSeveralByLeast() {
         rowIs(ONE + ONE + ONE, 3, 0, 1, 2);
         // On day 0 one would BURST, on days 1 and 2 none: that with EASE first, the others by numbers.
@@ -316,6 +323,13 @@ final class OrderEdges {
         partedIs(ONE + ONE + "after 0 1;after 1 0;after 0 1;", 1, 0, 1, 2);
     }
 
+    static void p13_whicheverOfTheTwoComesAfter() {
+        partedIs(ONE + ONE + "after 0 1;", 0, 1, 1, 1);
+        partedIs(ONE + ONE + "after 0 1;", 1, 0, 1, 2);
+        partedIs(ONE + ONE + "after 1 0;", 0, 1, 1, 1);
+        partedIs(ONE + ONE + "after 1 0;", 1, 0, 1, 2);
+    }
+
     static void p13_anOrderIsNotWanted() {
         partedIs(RING, 0, 1, 0, 1);
         partedIs(RING, 1, 0, 0, 6);
@@ -340,6 +354,13 @@ final class OrderEdges {
     static void p22_underOnceByTwoWays() {
         underIs(Tape.times(ONE, 4) + "after 1 0;after 2 0;after 3 1;after 3 2;", 0, 14, 0);
         underIs(Tape.times(ONE, 4) + "after 1 0;after 2 0;after 3 1;after 3 2;", 3, 0, 3);
+    }
+
+    static void p22_underOfAHigherNumber() {
+        String coat = ONE + ONE + ONE + "after 0 1;after 2 0;";
+        underIs(coat, 0, 4, 1);
+        underIs(coat, 1, 5, 0);
+        underIs(coat, 2, 0, 2);
     }
 
     static void p22_soonestByDaysBegun() {
@@ -447,6 +468,17 @@ final class OrderEdges {
         handsAre("seam 9 0 0;seam 1 0 0;seam 1 0 0;", 11, 9, 9, 9);
     }
 
+    static void p23_askedOfOneAndThenOfAnother() {
+        SewnYear x = of(nine(ONE) + "pace 9;");
+        Tape.tell(x, 0, nine("seam 9 0 0;") + ROW);
+        for (int i = 0; i < 2; i++) {
+            Due.is("of the first", x.hands(0, 4), 3);
+            Due.is("of the second", x.hands(1, 4), 81);
+            Due.is("of the second", x.hands(1, 1), 81);
+            Due.is("of the first", x.hands(0, 1), 9);
+        }
+    }
+
     static void p23_someWaitWhileOneSews() {
         // 0 and 1 at once, 2 waits for 1, then is taken though 0 is not done.
         handsAre("seam 5 0 0;seam 2 0 0;seam 3 0 0;after 2 1;", 10, 5, 5, 5);
@@ -481,6 +513,10 @@ final class OrderEdges {
             spoolsAre(coat, stitches - 1, NONE);
             spoolsAre(coat, stitches, 3);
         }
+        spoolsAre("seam 9 0 0;seam 1 0 0;", 8, NONE);
+        spoolsAre("seam 9 0 0;seam 1 0 0;", 9, 2);
+        spoolsAre("seam 1 0 0;seam 9 0 0;", 8, NONE);
+        spoolsAre("seam 1 0 0;seam 9 0 0;", 9, 2);
     }
 
     static void p24_aSpoolThatIsJustLongEnough() {

@@ -48,7 +48,7 @@ final class TellEdges {
     }
 
     static void p1_objectsAreApart() {
-        SewnYear x = Told.some();
+        SewnYear x = Retold.some();
         SewnYear y = new SewnYear();
         Due.is("the other's coats", y.count(0), 0);
         Due.is("the other's tape", y.end(1), NONE);
@@ -117,7 +117,7 @@ final class TellEdges {
         Due.is("at", x.fault(1), 18);
         x.feed(0x73657720, 0x313b7465, 0x61722032, 0x3b67726f, 0x7720333b);
         Due.is("text", x.text(1, NONE), 0);
-        Due.is("deeds", Told.life(x, 0), " 0:1 2:2 3:3");
+        Due.is("deeds", Retold.life(x, 0), " 0:1 2:2 3:3");
     }
 
     static void p2_bytesAbove127() {
@@ -189,6 +189,21 @@ final class TellEdges {
         x.end(0);
         Due.is("text", x.text(1, 0), 0);
         Due.is("deeds", x.deed(0, NONE, 0), 0);
+    }
+
+    /** Each text is fed whole and cut ahead of its last byte: no token goes on behind the end. */
+    static void p3_noTokenGoesOnBehindTheEnd() {
+        String[] texts = {"day", "grow 1", "grow 12", "grow 123", "grow 1;", "day;d", "day;1"};
+        int[] faults = {1, 1, 1, 1, 1, 0, 0};
+        int[] places = {0, 5, 6, 7, 6, NONE, NONE};
+        for (int i = 0; i < texts.length; i++) {
+            SewnYear x = new SewnYear();
+            Tape.put(x, texts[i]);
+            x.end(texts[i].length() - 1);
+            x.text(1, NONE);
+            Due.is(texts[i] + " cut, FAULT", x.fault(0), faults[i]);
+            Due.is(texts[i] + " cut, place", x.fault(1), places[i]);
+        }
     }
 
     // Promise 6
@@ -292,7 +307,7 @@ final class TellEdges {
     static void p7_eachKindAndNumber() {
         SewnYear x = new SewnYear();
         Tape.tell(x, 1, "sew 0;unpick 8;tear 0;grow 1;shrink 9;day;");
-        Due.is("deeds", Told.life(x, 0), " 0:0 1:8 2:0 3:1 4:9 5:-1");
+        Due.is("deeds", Retold.life(x, 0), " 0:0 1:8 2:0 3:1 4:9 5:-1");
     }
 
     static void p7_anotherWhat() {
@@ -355,7 +370,7 @@ final class TellEdges {
     static void p14_atFirst() {
         SewnYear x = new SewnYear();
         x.text(2, NONE);
-        Due.is("town", Told.town(x, 0), " 0 3 2 0 0");
+        Due.is("town", Retold.town(x, 0), " 0 3 2 0 0");
         Tape.tell(x, 2, "wearer 0 0 1 0;");
         Due.is("not AWAY from", x.town(1, 50), NONE);
         Due.is("not AWAY up to", x.town(1, 60), NONE);
@@ -365,7 +380,7 @@ final class TellEdges {
         SewnYear x = new SewnYear();
         Tape.tell(x, 2, "speed 9;speed 1;miles 9;miles 1;tailor 9 9;tailor 0 1;away 0 2 8;away 0 5 5;"
             + "wearer 1 1 1 1;wearer 1 1 1 1;");
-        Due.is("town", Told.town(x, 0), " 2 1 1 0 1 (1 1 1 1 5 5) (1 1 1 1 -1 -1)");
+        Due.is("town", Retold.town(x, 0), " 2 1 1 0 1 (1 1 1 1 5 5) (1 1 1 1 -1 -1)");
     }
 
     static void p14_noSuchTown() {
@@ -392,7 +407,7 @@ final class TellEdges {
     static void p18_tenFacts() {
         SewnYear x = new SewnYear();
         Tape.tell(x, 3, "before 0 8;" + Tape.times("at 8 0;", 8) + "not 0 8;");
-        Due.is("facts", Told.sight(x, 0), " 0:0:8" + Tape.times(" 1:8:0", 8) + " 2:0:8");
+        Due.is("facts", Retold.sight(x, 0), " 0:0:8" + Tape.times(" 1:8:0", 8) + " 2:0:8");
         Due.is("how many", x.fact(0, NONE, 0), 10);
         Due.is("fact 9", x.fact(0, 9, 0), 2);
         for (int k : new int[] {-3, -2, 10, 11, LOW, HIGH}) {
@@ -439,7 +454,7 @@ final class TellEdges {
     }
 
     static void p29_anotherSort() {
-        SewnYear x = Told.some();
+        SewnYear x = Retold.some();
         for (int sort : new int[] {-2, -1, 4, 5, LOW, HIGH}) {
             Due.is("count " + sort, x.count(sort), -2);
         }
@@ -461,12 +476,12 @@ final class TellEdges {
     }
 
     static void p30_anotherImage() {
-        SewnYear x = Told.some();
-        String told = Told.of(x);
+        SewnYear x = Retold.some();
+        String told = Retold.of(x);
         for (int k : new int[] {-1, 3, 4, LOW, HIGH}) {
             Due.is("image " + k, x.image(k), false);
         }
-        Due.is("all is as it was", Told.of(x), told);
+        Due.is("all is as it was", Retold.of(x), told);
         for (int k = 0; k < 3; k++) {
             Due.is("none was made", x.again(k), false);
         }
@@ -490,11 +505,11 @@ final class TellEdges {
         Tape.tell(x, 0, NINE);
         blanks(x, 30);
         x.image(2);
-        String told = Told.of(x);
+        String told = Retold.of(x);
         Tape.tell(x, 0, 0, "");
         Tape.tell(x, 0, 1, "");
         x.again(2);
-        Due.is("all is as it was", Told.of(x), told);
+        Due.is("all is as it was", Retold.of(x), told);
         Due.is("the tape too", x.end(600), 600);
     }
 
@@ -511,9 +526,9 @@ final class TellEdges {
         }
         x.again(2);
         for (int k = 0; k < 2; k++) {
-            Due.is("town " + k, Told.town(x, k), " 6 9 9 9 8 (0 9 1 99 0 99) (1 8 2 98 -1 -1) (2 7 3 97 -1 -1)"
+            Due.is("town " + k, Retold.town(x, k), " 6 9 9 9 8 (0 9 1 99 0 99) (1 8 2 98 -1 -1) (2 7 3 97 -1 -1)"
                 + " (3 6 4 96 -1 -1) (4 5 5 95 -1 -1) (9 0 30 0 99 99)");
-            Due.is("sight " + k, Told.sight(x, k), Tape.times(" 0:8:7", 10));
+            Due.is("sight " + k, Retold.sight(x, k), Tape.times(" 0:8:7", 10));
         }
     }
 
@@ -525,8 +540,8 @@ final class TellEdges {
         x.text(1, 0);
         x.text(1, 1);
         x.again(0);
-        Due.is("the first", Told.life(x, 0), Tape.times(" 3:9", 40));
-        Due.is("the second", Told.life(x, 1), Tape.times(" 1:8", 40));
+        Due.is("the first", Retold.life(x, 0), Tape.times(" 3:9", 40));
+        Due.is("the second", Retold.life(x, 1), Tape.times(" 1:8", 40));
     }
 
     static void p30_theTapeAndTheFault() {
@@ -541,7 +556,7 @@ final class TellEdges {
         Due.is("place", x.fault(1), 12);
         Due.is("no further byte", x.end(11), NONE);
         Due.is("the tape's", x.text(1, NONE), 0);
-        Due.is("deeds", Told.life(x, 0), " 5:-1 0:3");
+        Due.is("deeds", Retold.life(x, 0), " 5:-1 0:3");
     }
 
     static void p30_takenAnewItIsAsNow() {
@@ -557,43 +572,43 @@ final class TellEdges {
     }
 
     static void p30_whatIsToldLaterIsNotInIt() {
-        SewnYear x = Told.some();
+        SewnYear x = Retold.some();
         x.image(0);
-        String told = Told.of(x);
+        String told = Retold.of(x);
         Tape.tell(x, 0, 0, "pace 9;");
         Tape.tell(x, 1, 0, "");
         Tape.tell(x, 2, 0, "");
         Tape.tell(x, 3, 0, "");
         Tape.tell(x, 3, "");
         x.again(0);
-        Due.is("as it was", Told.of(x), told);
+        Due.is("as it was", Retold.of(x), told);
         Due.is("one sight", x.count(3), 1);
     }
 
     // Promise 31
 
     static void p31_noneSuchChangesNothing() {
-        SewnYear x = Told.some();
+        SewnYear x = Retold.some();
         Tape.tell(x, 0, "q");
         Tape.put(x, "day;");
         x.image(1);
-        String told = Told.of(x);
+        String told = Retold.of(x);
         for (int k : new int[] {0, 2, -1, 3, LOW, HIGH}) {
             Due.is("again " + k, x.again(k), false);
         }
-        Due.is("all is as it was", Told.of(x), told);
+        Due.is("all is as it was", Retold.of(x), told);
         Due.is("the tape too", x.end(5), NONE);
         Due.is("the tape too", x.end(4), 4);
     }
 
     static void p31_againAndAgain() {
-        SewnYear x = Told.some();
+        SewnYear x = Retold.some();
         x.image(0);
-        String told = Told.of(x);
+        String told = Retold.of(x);
         for (int i = 0; i < 3; i++) {
             Tape.tell(x, 1, 0, "day;");
             Due.is("again", x.again(0), true);
-            Due.is("as it was", Told.of(x), told);
+            Due.is("as it was", Retold.of(x), told);
         }
     }
 

@@ -118,13 +118,13 @@ final class TextEdges {
     }
 
     static void p4_noSuchSort() {
-        SewnYear x = Told.some();
-        String told = Told.of(x);
+        SewnYear x = Retold.some();
+        String told = Retold.of(x);
         for (int sort : new int[] {-2, -1, 4, 5, LOW, HIGH}) {
             Due.is("a further one " + sort, x.text(sort, NONE), -2);
             Due.is("in the place of one " + sort, x.text(sort, 0), -2);
         }
-        Due.is("all is as it was", Told.of(x), told);
+        Due.is("all is as it was", Retold.of(x), told);
     }
 
     private static void isNotRead(SewnYear x, int sort, int at) {
@@ -138,23 +138,23 @@ final class TextEdges {
     }
 
     static void p4_aRefusedTextIsNotRead() {
-        SewnYear x = Told.some();
-        String told = Told.of(x);
+        SewnYear x = Retold.some();
+        String told = Retold.of(x);
         isNotRead(x, 0, NONE);
         isNotRead(x, 0, 2);
         isNotRead(x, 0, -2);
         isNotRead(x, 1, 1);
         isNotRead(x, 4, NONE);
         isNotRead(x, -1, NONE);
-        Due.is("all is as it was", Told.of(x), told);
+        Due.is("all is as it was", Retold.of(x), told);
     }
 
     static void p4_aGoodTextIsNotTakenIfThereIsNoRoom() {
-        SewnYear x = Told.some();
-        String told = Told.of(x);
+        SewnYear x = Retold.some();
+        String told = Retold.of(x);
         Due.is("refused", Tape.tell(x, 0, "pace 7;"), -2);
         Due.is("the tape is empty", x.end(1), NONE);
-        Due.is("all is as it was", Told.of(x), told);
+        Due.is("all is as it was", Retold.of(x), told);
     }
 
     static void p4_theTapeIsEmptyThen() {
@@ -171,15 +171,15 @@ final class TextEdges {
     static void p4_aFaultLeavesWhatIsTold() {
         String[] faulty = {"pace 9;seam 0 0 0;", "sew 1;sew 9;", "wearer 1 1 1 1;speed 0;", "at 0 0;at 0 9;"};
         for (int sort = 0; sort < 4; sort++) {
-            SewnYear x = Told.some();
+            SewnYear x = Retold.some();
             x.image(0);
             int there = x.count(sort);
             Due.is("in the place of one", Tape.tell(x, sort, 0, faulty[sort]), NONE);
             x.text(1, 9);
             Due.is("none more", x.count(sort), there);
-            String told = Told.of(x);
+            String told = Retold.of(x);
             x.again(0);
-            Due.is("all is as it was", told, Told.of(x));
+            Due.is("all is as it was", told, Retold.of(x));
         }
     }
 
@@ -194,15 +194,15 @@ final class TextEdges {
     }
 
     static void p4_inThePlaceOfOneNothingOfThatIsLeft() {
-        SewnYear x = Told.some();
+        SewnYear x = Retold.some();
         for (int sort = 0; sort < 4; sort++) {
             Due.is("an empty one", x.text(sort, 0), 0);
         }
-        Due.is("coat", Told.coat(x, 0), " 0 pace 1 0 0 0 0 0 0 .. 0");
+        Due.is("coat", Retold.coat(x, 0), " 0 pace 1 0 0 0 0 0 0 .. 0");
         Due.is("the other coat", x.coat(1, 0), 1);
-        Due.is("life", Told.life(x, 0), "");
-        Due.is("town", Told.town(x, 0), " 0 3 2 0 0");
-        Due.is("sight", Told.sight(x, 0), "");
+        Due.is("life", Retold.life(x, 0), "");
+        Due.is("town", Retold.town(x, 0), " 0 3 2 0 0");
+        Due.is("sight", Retold.sight(x, 0), "");
         Tape.tell(x, 0, 0, SEAM + SEAM);
         Due.is("no AFTER", x.coat(0, 41), 0);
         Tape.tell(x, 2, 0, WEARER + WEARER);
@@ -218,13 +218,13 @@ final class TextEdges {
         Due.is("GROWTH", x.coat(0, 107), 0);
         Tape.tell(x, 2, WEARER + "away 0 1 1;speed 9;miles 9;tailor 9 9;;");
         Tape.tell(x, 2, WEARER);
-        Due.is("town", Told.town(x, 0), " 1 3 2 0 0 (0 0 1 0 -1 -1)");
+        Due.is("town", Retold.town(x, 0), " 1 3 2 0 0 (0 0 1 0 -1 -1)");
         Tape.tell(x, 1, "day;;");
         Tape.tell(x, 1, "sew 1;");
-        Due.is("life", Told.life(x, 0), " 0:1");
+        Due.is("life", Retold.life(x, 0), " 0:1");
         Tape.tell(x, 3, "at 1 1;;");
         Tape.tell(x, 3, "not 2 2;");
-        Due.is("sight", Told.sight(x, 0), " 2:2:2");
+        Due.is("sight", Retold.sight(x, 0), " 2:2:2");
     }
 
     // Promise 4: what a text is
@@ -505,7 +505,7 @@ final class TextEdges {
     }
 
     static void p5_otherCallsLeaveIt() {
-        SewnYear x = Told.some();
+        SewnYear x = Retold.some();
         Tape.tell(x, 1, 0, "day;sew 9;");
         x.feed(0, 0, 0, 0, 0);
         x.end(0);

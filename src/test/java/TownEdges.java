@@ -267,6 +267,17 @@ final class TownEdges {
         rowIs("wearer 0 0 1 1;wearer 0 0 1 1;wearer 0 0 1 1;", 20, 0, 1, 2);
     }
 
+    static void p16_theLastRoundByNumbers() {
+        String town = "wearer 0 0 1 5;wearer 0 0 1 4;wearer 0 0 1 3;wearer 0 0 1 2;wearer 0 0 1 1;wearer 0 0 1 0;";
+        roundsAre(town, 6, 5, 0, 0);
+        rowIs(town, 10, 5, 4, 3, 2, 1, 0);
+        rowIs(town, 20, 0, 1, 2, 3, 4, 5);
+        String row = "miles 1;tailor 9 0;wearer 0 0 1 0;wearer 1 0 1 0;wearer 2 0 1 0;wearer 3 0 1 0;wearer 4 0 1 0;"
+            + "wearer 5 0 1 0;";
+        rowIs(row, 20, 5, 4, 3, 2, 1, 0);
+        Due.is("SOON", of(row).rounds(0, 1), 14);
+    }
+
     static void p16_theFirstOfSeveralSoonest() {
         rowIs(SIX, 20, 0, 1, 2, 3, 4, 5);
         rowIs("miles 1;wearer 2 0 1 0;wearer 1 0 1 0;", 20, 1, 0);

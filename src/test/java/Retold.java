@@ -1,6 +1,6 @@
 /** All that a SewnYear tells of what it was told, but for the bytes of the tape: two such rows are equal if nothing changed. */
-final class Told {
-    private Told() {
+final class Retold {
+    private Retold() {
     }
 
     static String of(SewnYear x) {
